@@ -1,4 +1,5 @@
-// One method for each promise of the document: ordinary inputs, the named edges, wrong inputs.
+// One method or more for each promise of the document: ordinary inputs, the named edges, wrong inputs.
+// No object is called more than 512 times, since the document promises nothing beyond that.
 public final class PromiseTests {
     private static final int[] BAD_NUMBERS = {-1, 3, 4, 8, Integer.MIN_VALUE, Integer.MAX_VALUE};
     private static final int[] BAD_PAGES = {-1, 8, 9, 32, Integer.MIN_VALUE, Integer.MAX_VALUE};
@@ -9,6 +10,7 @@ public final class PromiseTests {
     public static void main(String[] args) {
         aNewObject();
         map();
+        mapRefusals();
         unmap();
         write();
         copy();
@@ -22,6 +24,8 @@ public final class PromiseTests {
         drain();
         snapshot();
         rollBack();
+        rollBackOfOneProcess();
+        rollBackToNothing();
         exit();
         read();
         mapped();
@@ -149,17 +153,22 @@ public final class PromiseTests {
         z.rollBack(0);
         due("map: after rollBack", z.map(0, 4), 1);
         dueZeroPage("map: after rollBack", z, 0, 4);
+    }
 
-        before = state(x);
+    // Promise 2
+    private static void mapRefusals() {
+        OolMessagePorts x = withPages(2, 0, 8);
+        String before = state(x);
         for (int bad : BAD_NUMBERS) {
             due("map: process " + bad, x.map(bad, 0), OolMessagePorts.BAD_NUMBER);
             due("map: process first", x.map(bad, -1), OolMessagePorts.BAD_NUMBER);
         }
         for (int bad : BAD_PAGES) {
-            due("map: page " + bad, x.map(0, bad), OolMessagePorts.BAD_PAGE);
-            due("map: page " + bad, x.map(2, bad), OolMessagePorts.BAD_PAGE);
-            due("map: page " + bad, z.map(1, bad), OolMessagePorts.BAD_PAGE);
+            for (int process = 0; process < 3; process++) {
+                due("map: page " + bad, x.map(process, bad), OolMessagePorts.BAD_PAGE);
+            }
         }
+        due("map: full", x.map(2, 7), OolMessagePorts.MAPPED);
         due("map: refusals", state(x), before);
     }
 
@@ -524,11 +533,9 @@ public final class PromiseTests {
     // Promise 10, and that what is in a snapshot never changes
     private static void rollBack() {
         OolMessagePorts x = withPages(1, 2, 3);
-        mapFilled(x, 0, 0, 8, 600);
-        mapFilled(x, 2, 0, 8, 800);
         String kept = memory(x, 1);
-        String others = memory(x, 0) + memory(x, 2);
         x.snapshot(1);
+        mapFilled(x, 0, 0, 2, 600);
         for (int round = 0; round < 3; round++) {
             x.write(1, 8 + round, -round);
             x.unmap(1, 3);
@@ -539,28 +546,48 @@ public final class PromiseTests {
             due("rollBack", x.rollBack(1), 3);
             due("rollBack: memory", memory(x, 1), kept);
             due("rollBack: the last word stays", x.lastWord(1), 70 + round);
-            due("rollBack: other processes", memory(x, 0) + memory(x, 2), others);
         }
         x.write(1, 8, 1);
         due("rollBack: writes go on", x.read(1, 8), 1);
+        x.send(1, 2, 5, pages(2, 1));
         due("rollBack: again", x.rollBack(1), 3);
         due("rollBack: again", memory(x, 1), kept);
-        due("rollBack: takes no message", x.send(1, 2, 5, pages(2, 1)), 1);
-        x.rollBack(1);
         due("rollBack: ports stay", x.waiting(2), 1);
+    }
 
-        OolMessagePorts y = new OolMessagePorts();
-        due("rollBack: an empty memory", y.snapshot(2), 0);
-        y.map(2, 1);
-        due("rollBack: to an empty memory", y.rollBack(2), 0);
-        due("rollBack: to an empty memory", y.mapped(2, 1) ? 1 : 0, 0);
-        y.map(1, 1);
-        String before = state(y);
-        due("rollBack: no snapshot", y.rollBack(1), OolMessagePorts.NO_SNAPSHOT);
-        for (int bad : BAD_NUMBERS) {
-            due("rollBack: process " + bad, y.rollBack(bad), OolMessagePorts.BAD_NUMBER);
+    // Promise 10
+    private static void rollBackOfOneProcess() {
+        for (int process = 0; process < 3; process++) {
+            OolMessagePorts x = withPages(process, 0, 1);
+            int before = (process + 2) % 3;
+            int after = (process + 1) % 3;
+            x.snapshot(before);
+            x.snapshot(process);
+            x.snapshot(after);
+            x.write(process, 0, 1);
+            mapFilled(x, before, 0, 8, 600);
+            mapFilled(x, after, 0, 8, 800);
+            String others = memory(x, before) + memory(x, after);
+            due("rollBack: one process", x.rollBack(process), 1);
+            duePage("rollBack: one process", x, process, 0, 100);
+            due("rollBack: other processes", memory(x, before) + memory(x, after), others);
         }
-        due("rollBack: refusals", state(y), before);
+    }
+
+    // Promise 10
+    private static void rollBackToNothing() {
+        OolMessagePorts x = new OolMessagePorts();
+        due("rollBack: an empty memory", x.snapshot(2), 0);
+        x.map(2, 1);
+        due("rollBack: to an empty memory", x.rollBack(2), 0);
+        due("rollBack: to an empty memory", x.mapped(2, 1) ? 1 : 0, 0);
+        x.map(1, 1);
+        String before = state(x);
+        due("rollBack: no snapshot", x.rollBack(1), OolMessagePorts.NO_SNAPSHOT);
+        for (int bad : BAD_NUMBERS) {
+            due("rollBack: process " + bad, x.rollBack(bad), OolMessagePorts.BAD_NUMBER);
+        }
+        due("rollBack: refusals", state(x), before);
     }
 
     // Promise 11
@@ -599,6 +626,7 @@ public final class PromiseTests {
         }
         due("exit: refusals", state(x), before);
         due("exit: all pages", x.exit(0), 8);
+        due("exit: all pages", memory(x, 0), memory(new OolMessagePorts(), 0));
     }
 
     // Promise 12
@@ -691,13 +719,13 @@ public final class PromiseTests {
         x.snapshot(0);
         x.send(0, 0, 8, pages(0, 3));
         String before = state(x);
-        for (int n = -2; n < 40; n++) {
+        for (int n = -1; n < 9; n++) {
             for (int process = -1; process < 4; process++) {
-                x.read(process, n);
+                x.read(process, 4 * n);
                 x.mapped(process, n);
-                x.lastWord(n);
-                x.waiting(n);
             }
+            x.lastWord(n);
+            x.waiting(n);
         }
         due("looks", state(x), before);
         due("looks: snapshot", x.rollBack(0), 3);
